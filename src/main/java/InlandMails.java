@@ -1879,7 +1879,14 @@ public final class InlandMails {
                 return refuse(3);
             }
             step();
-            return readSum(open + 1) && skip(')');
+            if (!readSum(open + 1)) {
+                return false;
+            }
+            if (token != ')') {
+                return refuse(1);
+            }
+            step();
+            return true;
         }
 
         private boolean skip(int wanted) {
