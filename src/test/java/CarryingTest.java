@@ -26,6 +26,7 @@ public final class CarryingTest {
         found();
         burnt();
         burntByItsAct();
+        wholeLand();
         DUE.close();
     }
 
@@ -118,6 +119,10 @@ public final class CarryingTest {
         due("what 2", x.where(0, 35, 2), NONE);
         due("what -1", x.where(0, 35, -1), NONE);
         due("no letter", x.where(1, 35, 0), NONE);
+        InlandMails y = Land.of(2);
+        Land.letter(y, 1, 0);
+        due("in minute 0", y.where(0, 0, 0), 0);
+        due("its place", y.where(0, 0, 1), 1);
         due("letter -1", x.where(-1, 35, 0), NONE);
     }
 
@@ -596,5 +601,38 @@ public final class CarryingTest {
         }
         Land.upTo(x, 10079);
         due("dead all week", x.of(3, 7), 3);
+    }
+
+    /** As many of all as there can be; each letter goes a way of its own train, by its own sorter. */
+    private static void wholeLand() {
+        InlandMails x = Land.of(12);
+        for (int t = 0; t < 10; t++) {
+            int[] told = new int[24];
+            for (int i = 0; i < 8; i++) {
+                told[3 * i] = i % 2 == 0 ? t : t + 1;
+                told[3 * i + 1] = 100 * t + 10 * i + 5;
+                told[3 * i + 2] = told[3 * i + 1];
+            }
+            Land.train(x, told);
+        }
+        for (int s = 0; s < 8; s++) {
+            Land.sorterIn(x, s + 1, 99, ALL);
+        }
+        for (int l = 0; l < 120; l++) {
+            Land.letter(x, l % 10, l % 10 + 1);
+        }
+        Land.upTo(x, 1004);
+        for (int l = 0; l < 120; l++) {
+            int t = l % 10;
+            boolean raw = t == 0 || t == 9;
+            due("aboard of", x.lead(l, 1, 2), t);
+            due("aboard at", x.lead(l, 1, 0), 100 * t + 5);
+            due("given at", x.lead(l, 2, 0), 100 * t + (raw ? 75 : 15));
+            due("left", x.of(l, 12), raw ? 1 : 0);
+        }
+        due("given", x.look(12), 120);
+        for (int t = 0; t < 10; t++) {
+            due("left by run (" + t + ", 0)", x.run(t, 0, 3), t == 0 || t == 9 ? 12 : 0);
+        }
     }
 }

@@ -303,6 +303,11 @@ public final class ChargesAndWaysTest {
         InlandMails x = Land.of(2);
         Land.train(x, 0, 1400, 1430, 1, 1439, 1439);
         ways(x, 0, 6 * 1440 + 1430, 1, 10079, 1, 0, 6, 0, 1);
+        ways(x, 0, 10079, 1);
+        ways(x, 1, 10079, 0);
+        ways(x, -1, 0, 0);
+        ways(x, 0, 0, -1);
+        ways(x, 2, 0, 1);
         yes("late by 1", x.late(0, 6, 1));
         ways(x, 0, 6 * 1440 + 1430, 1);
         InlandMails y = Land.of(3);
@@ -314,5 +319,12 @@ public final class ChargesAndWaysTest {
         Land.train(y, 2, 960, 960, 1, 961, 961, 0, 1000, 1000);
         ways(y, 0, 0, 1, 2350, 1, 0, 0, 0, 1);
         ways(y, 2, 2400, 1, 2401, 1, 1, 1, 0, 1);
+        InlandMails z = Land.of(3);
+        Land.train(z, 0, 1439, 1439, 1, 1440, 1440);
+        Land.train(z, 2, 0, 0, 0, 1, 1);
+        ways(z, 0, 5 * 1440 + 1439, 1, 6 * 1440, 1, 0, 5, 0, 1);
+        ways(z, 0, 6 * 1440 + 1439, 1);
+        Land.upTo(z, 10079);
+        ways(z, 0, 10079, 1);
     }
 }

@@ -20,6 +20,7 @@ public final class RobberiesAndTrialsTest {
         whatIfDoesNothing();
         seats();
         seatsTies();
+        seatsAnew();
         seatsOfTwo();
         DUE.close();
     }
@@ -146,6 +147,8 @@ public final class RobberiesAndTrialsTest {
         due("clock(2, 0)", x.clock(2, 0), -1000);
         no("set(2)", x.set(2));
         no("set(-1)", x.set(-1));
+        no("seen(-1, 0)", x.seen(-1, 0));
+        no("the last minute, at once", x.seen(0, 10079));
         yes("it shows what it was set to", x.seen(0, 0));
         no("and nothing else", x.seen(0, 1));
         gains(x, 0, -60, 60, 0);
@@ -182,6 +185,10 @@ public final class RobberiesAndTrialsTest {
         x.minutes(1000);
         yes("set anew, it gains alike", x.seen(0, 2536));
         gains(x, 0, -12, -11, 1540);
+        Land.upTo(x, 10079);
+        x.set(0);
+        yes("the last minute", x.seen(0, 10079));
+        due("true at last", x.trueMinute(0, 10079, 0), 10079);
     }
 
     private static void clockRunsBackNever() {
@@ -415,6 +422,44 @@ public final class RobberiesAndTrialsTest {
         due("one in each", y.seats(0), 40);
         due("the lesser first", y.seats(10), 0);
         due("the other", y.seats(11), 1);
+    }
+
+    /** What changes them is seen in them, whatever was asked ahead of it. */
+    private static void seatsAnew() {
+        InlandMails x = Land.of(3);
+        x.train();
+        x.stop(0, 0, 10, 10, true);
+        x.stop(0, 1, 20, 20, true);
+        x.stop(0, 2, 30, 30, false);
+        x.sorter(9, ALL);
+        Land.letter(x, 0, 1);
+        Land.letter(x, 0, 2);
+        due("one sorter", x.seats(0), 20 + 30);
+        yes("missed", x.miss(0, 0, 1));
+        due("carried on to town 2, from which none goes", x.seats(0), 10080 + 30);
+        x.stop(0, 1, 40, 40, false);
+        due("put down there, and taken on by the same run", x.seats(0), 40 + 30);
+        x.minutes(10);
+        due("aboard raw by now: the sorter's time comes behind it", x.seats(0), 40 + 30);
+        InlandMails y = Land.of(3);
+        Land.train(y, 0, 10, 10, 1, 20, 20, 2, 30, 30);
+        Land.train(y, 2, 10, 10, 1, 20, 20, 0, 30, 30);
+        y.sorter(1, ALL);
+        Land.letter(y, 0, 1);
+        Land.letter(y, 2, 1);
+        due("one sorter for two trains", y.seats(0), 20 + 1460);
+        y.sorter(1, ALL);
+        due("a second one", y.seats(0), 40);
+        due("in the second train", y.seats(11), 1);
+        yes("both in the first", y.seat(0, 0) && y.seat(1, 0));
+        due("asked for once more", y.seats(0), 40);
+        y.minutes(10);
+        due("one aboard sorted, one raw", y.seats(0), 20 + 1460);
+        due("they sit as they sat", y.run(0, 0, 1) - y.run(1, 0, 1), 1);
+        y.rob(0, 0);
+        due("robbed", y.seats(0), 1460);
+        y.minutes(1440);
+        due("the second sorter sits there still", y.run(0, 1, 0), 0);
     }
 
     /** The first two alone; others as they sit; what is told since changes them. */

@@ -54,7 +54,10 @@ public final class TableAndActsTest {
 
     /** Promise 2. */
     private static void town() {
-        InlandMails x = Land.of(12);
+        InlandMails x = new InlandMails();
+        for (int a = 0; a < 12; a++) {
+            due("town()", x.town(), a);
+        }
         due("the 13th town", x.town(), NONE);
         due("towns", x.look(1), 12);
     }
@@ -197,6 +200,32 @@ public final class TableAndActsTest {
         yes("late", x.late(0, 2, 60));
         due("minutes(1490)", x.minutes(1490), 2950);
         yes("late, it has not come there", x.miss(0, 2, 1));
+        missOfManyRuns();
+    }
+
+    /** Each run of each train has its own. */
+    private static void missOfManyRuns() {
+        InlandMails x = Land.of(2);
+        for (int t = 0; t < 10; t++) {
+            x.train();
+            for (int i = 0; i < 8; i++) {
+                x.stop(t, i % 2, 10 * i + 5, 10 * i + 5, true);
+            }
+        }
+        for (int t = 0; t < 10; t++) {
+            for (int d = 0; d < 7; d++) {
+                for (int i = 0; i < 7; i++) {
+                    yes("miss(" + t + ", " + d + ", " + i + ")", x.miss(t, d, i));
+                }
+                yes("late", x.late(t, d, 10 * d + t));
+            }
+        }
+        for (int t = 0; t < 10; t++) {
+            for (int d = 0; d < 7; d++) {
+                due("LATE of run (" + t + ", " + d + ")", x.run(t, d, 4), 10 * d + t);
+            }
+            due("comes at the eighth stop", x.stopOf(t, 7, 1), 75);
+        }
     }
 
     /** Promise 10. */
@@ -363,6 +392,20 @@ public final class TableAndActsTest {
         fault("ship 1; sign", 1, 12);
         fault("charge 1 / 12345;", 1, 11);
         fault("abcdefghijklmnopqrstuvwxyz;", 1, 0);
+        fault("charge shee ts;", 1, 7);
+        fault("charge milesz;", 1, 7);
+        fault("charge milesa;", 1, 7);
+        fault("charge milesA;", 1, 7);
+        fault("charge milesZ;", 1, 7);
+        fault("charge miles[;", 1, 12);
+        fault("charge miles@;", 1, 12);
+        fault("charge miles`;", 1, 12);
+        fault("charge miles{;", 1, 12);
+        fault("charge 1:;", 1, 8);
+        fault("charge 1.5;", 1, 8);
+        fault("charge sheetsweight;", 1, 7);
+        fault("charge 9;0", 1, 9);
+        fault("charge (1));", 1, 10);
     }
 
     /** Promise 15: parts by 0, numbers too great, lines and brackets too many. */
@@ -398,6 +441,17 @@ public final class TableAndActsTest {
         fault("charge 1 when not not not not not not not not 1 = 1 and not 1 = 1;", 0, NONE);
         fault("charge 1 when not 1 = 1 or ((((((((1)))))))) = 1;", 0, NONE);
         fault("charge 1 when (((((((( not", 1, 23);
+        fullTape();
+    }
+
+    private static void fullTape() {
+        StringBuilder sum = new StringBuilder("charge 1");
+        while (sum.length() < 598) {
+            sum.append("+1");
+        }
+        fault(sum + " ;", 0, NONE);
+        fault(sum + "+1", 1, 600);
+        fault(sum + ";;", 1, 599);
     }
 
     /** Promise 16. */
