@@ -17,6 +17,7 @@ public final class CarryingTest {
         minuteOrder();
         runsInOrder();
         missedAtSpeed();
+        missedForAnother();
         missedAtTheStart();
         run();
         account();
@@ -25,6 +26,7 @@ public final class CarryingTest {
         order();
         found();
         burnt();
+        burntTheNextDay();
         burntByItsAct();
         wholeLand();
         DUE.close();
@@ -335,6 +337,23 @@ public final class CarryingTest {
         due("the next run takes it", x.of(on, 8), 10);
     }
 
+    /** The best way is told whatever was missed: another run of the same minute takes nothing. */
+    private static void missedForAnother() {
+        InlandMails x = Land.of(2);
+        x.train();
+        x.stop(0, 0, 10, 10, true);
+        x.stop(0, 1, 20, 20, false);
+        Land.train(x, 0, 10, 10, 1, 20, 20);
+        Land.train(x, 0, 11, 11, 1, 30, 30);
+        Land.letter(x, 0, 1);
+        yes("miss", x.miss(0, 0, 0));
+        x.minutes(10);
+        due("neither", x.of(0, 7), 0);
+        x.minutes(1);
+        due("a minute later the next one", x.of(0, 8), 2);
+        due("aboard", x.of(0, 7), 1);
+    }
+
     private static void missedAtTheStart() {
         InlandMails x = Land.of(2);
         x.train();
@@ -574,6 +593,22 @@ public final class CarryingTest {
         due("burnt as day 3 begins", x.of(0, 7), 6);
         rows(x, 0, 1439, 0, 0, 1440, 1, 10, 2880, 3, 1, 4320, 6, 1);
         due("burnt ones", x.look(16), 1);
+    }
+
+    /** What dies in the first minute of a day is not burnt by that day, though dead be 0. */
+    private static void burntTheNextDay() {
+        InlandMails x = Land.of(2);
+        Land.train(x, 0, 0, 0, 1, 1440, 1440);
+        Land.act(x, 0, "dead 0;");
+        x.minutes(1439);
+        Land.letter(x, 0, 1);
+        x.nobody(0);
+        Land.letter(x, 0, 1);
+        x.minutes(1441);
+        due("dead", x.of(0, 7), 3);
+        x.minutes(1440);
+        due("burnt", x.of(0, 7), 6);
+        due("at", x.lead(0, 3, 0), 4320);
     }
 
     /** By the act by which it was posted; without one after 3 days; dead 0 as the next day begins. */

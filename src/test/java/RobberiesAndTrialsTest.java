@@ -17,9 +17,11 @@ public final class RobberiesAndTrialsTest {
         triedFranks();
         whatIf();
         whatIfStates();
+        whatIfAboard();
         whatIfDoesNothing();
         seats();
         seatsTies();
+        seatsApart();
         seatsAnew();
         seatsOfTwo();
         DUE.close();
@@ -185,7 +187,10 @@ public final class RobberiesAndTrialsTest {
         x.minutes(1000);
         yes("set anew, it gains alike", x.seen(0, 2536));
         gains(x, 0, -12, -11, 1540);
+        x.train();
         Land.upTo(x, 10079);
+        no("it may show 10101, but that is no minute", x.seen(1, 10101));
+        no("10080", x.seen(1, 10080));
         x.set(0);
         yes("the last minute", x.seen(0, 10079));
         due("true at last", x.trueMinute(0, 10079, 0), 10079);
@@ -216,6 +221,9 @@ public final class RobberiesAndTrialsTest {
         due("100 shown: greatest", x.trueMinute(0, 100, 1), 102);
         due("10079 shown: greatest is the last", x.trueMinute(0, 10079, 1), 10079);
         due("10079 shown: least", x.trueMinute(0, 10079, 0), 9914);
+        due("7380 shown: by no whole second at 7260 to 7262", x.trueMinute(0, 7380, 0), 7263);
+        due("7014 shown: least", x.trueMinute(0, 7014, 0), 6901);
+        due("7014 shown: greatest", x.trueMinute(0, 7014, 1), 7133);
         x.minutes(600);
         yes("seen", x.seen(0, 602));
         due("1000 shown: least", x.trueMinute(0, 1000, 0), 996);
@@ -356,6 +364,21 @@ public final class RobberiesAndTrialsTest {
         due("burnt", x.whatIf(NONE, 0, 0), 10080 + 20);
     }
 
+    /** A trial begins with what lies aboard as it lies there. */
+    private static void whatIfAboard() {
+        InlandMails x = Land.of(4);
+        Land.train(x, 0, 10, 10, 1, 20, 20, 2, 30, 30, 3, 40, 40);
+        Land.sorterIn(x, 0, 1, 4);
+        Land.letter(x, 0, 2);
+        x.minutes(15);
+        x.seat(0, NONE);
+        due("sorted for stop 2, past stop 1", x.whatIf(NONE, 0, 0), 30);
+        x.minutes(25);
+        due("so it was", x.lead(0, 2, 0), 30);
+        Land.letter(x, 0, 1);
+        due("for stop 1, whose town none knows", x.whatIf(NONE, 0, 0), 30 + 10080);
+    }
+
     private static void whatIfDoesNothing() {
         InlandMails x = Land.of(3);
         Land.train(x, 0, 10, 10, 1, 20, 20, 2, 30, 30);
@@ -460,6 +483,21 @@ public final class RobberiesAndTrialsTest {
         due("robbed", y.seats(0), 1460);
         y.minutes(1440);
         due("the second sorter sits there still", y.run(0, 1, 0), 0);
+    }
+
+    /** Each of the first two where it does best. */
+    private static void seatsApart() {
+        InlandMails x = Land.of(3);
+        Land.train(x, 0, 10, 10, 1, 20, 20, 2, 30, 30);
+        Land.train(x, 2, 10, 10, 1, 20, 20, 0, 30, 30);
+        Land.train(x, 1, 10, 10, 2, 20, 20, 0, 30, 30);
+        x.sorter(1, 4);
+        x.sorter(1, 2);
+        Land.letter(x, 1, 2);
+        Land.letter(x, 2, 1);
+        due("both sorted", x.seats(0), 40);
+        due("sorter 0, who knows town 2", x.seats(10), 2);
+        due("sorter 1, who knows town 1", x.seats(11), 1);
     }
 
     /** The first two alone; others as they sit; what is told since changes them. */
