@@ -823,11 +823,15 @@ public final class InlandMails {
 
         int firstBehind(int minute) {
             for (int e = 0; e < count; e++) {
-                if (keyAt(e) >> 11 > minute) {
+                if (minuteIn(keyAt(e)) > minute) {
                     return e;
                 }
             }
             return count;
+        }
+
+        static int minuteIn(int key) {
+            return key >> 11;
         }
 
         static boolean isGoing(int key) {
@@ -872,7 +876,7 @@ public final class InlandMails {
             refresh();
             for (int e = 0; e < count; e++) {
                 int key = keyAt(e);
-                if (isGoing(key) && key >> 11 >= minute && townIn(key) == town) {
+                if (isGoing(key) && minuteIn(key) >= minute && townIn(key) == town) {
                     return best[TOWNS * slotIn(key) + to];
                 }
             }
@@ -922,8 +926,8 @@ public final class InlandMails {
                 int key = keys[e];
                 if (isGoing(key)) {
                     int town = townIn(key);
-                    if (headMinute[town] != key >> 11) {
-                        headMinute[town] = key >> 11;
+                    if (headMinute[town] != minuteIn(key)) {
+                        headMinute[town] = minuteIn(key);
                         head[town] = slotIn(key);
                     }
                     firstOfMinute[slotIn(key)] = head[town];
@@ -949,7 +953,7 @@ public final class InlandMails {
             for (int to = 0; to < TOWNS; to++) {
                 long own = ride[TOWNS * (slot / STOPS) + to];
                 if (own != NO_WAY) {
-                    own += (long) (key & 7) << 3;
+                    own += (long) stopIn(key) << 3;
                 }
                 long later = head[town] < 0 ? NO_WAY : best[TOWNS * head[town] + to];
                 best[TOWNS * slot + to] = Math.min(own, later);
@@ -963,7 +967,7 @@ public final class InlandMails {
                 long on = head[town] < 0 ? NO_WAY : best[TOWNS * head[town] + to];
                 long way = NO_WAY;
                 if (to == town) {
-                    way = (long) (key >> 11) << 21 | 1 << 13 | leg;
+                    way = (long) minuteIn(key) << 21 | 1 << 13 | leg;
                 } else if (on != NO_WAY) {
                     way = ((on >> 13) + 1) << 13 | leg;
                 }
@@ -1277,7 +1281,7 @@ public final class InlandMails {
             int day = from / DAY + 1;
             for (int e = ways.firstBehind(from); e < ways.count && moving > 0; e++) {
                 int key = ways.keyAt(e);
-                int minute = key >> 11;
+                int minute = Ways.minuteIn(key);
                 if (minute > upTo) {
                     break;
                 }

@@ -626,6 +626,7 @@ public final class CarryingTest {
             x.nobody(l);
         }
         Land.act(x, 0, "dead 1;");
+        Land.letter(x, 1, 0);
         int[] burnt = {4320, 2880, 1440};
         for (int l = 2; l >= 0; l--) {
             Land.upTo(x, burnt[l] - 1);
