@@ -610,7 +610,7 @@ public final class InlandMails {
 
     private boolean isUnderWay(int t, int d) {
         int i = table.goneFrom(t, d, now);
-        return i != NONE && i + 1 < table.stops[t] && table.comesAt(t, d, i + 1) > now;
+        return i != NONE && table.comesAt(t, d, i + 1) > now;
     }
 
     private int outcome() {
@@ -740,9 +740,10 @@ public final class InlandMails {
             return DAY * d + goes[STOPS * t + i] + delay[TRAINS * d + t];
         }
 
+        /** From its last stop a run does not go, whatever GOES it was told there. */
         int goneFrom(int t, int d, int minute) {
             int gone = NONE;
-            for (int i = 0; i < stops[t]; i++) {
+            for (int i = 0; i < stops[t] - 1; i++) {
                 if (goesAt(t, d, i) <= minute) {
                     gone = i;
                 }

@@ -378,9 +378,9 @@ public final class CarryingTest {
         Land.letter(x, 0, 1);
         Land.letter(x, 0, 2);
         yes("late", x.late(0, 1, 7));
-        int[][] want = {{0, 0, NONE, 0, 0}, {1, 1, 0, 0, 0}, {1, 0, 1, 0, 0}, {0, 0, 2, 1, 0}};
-        int[] minute = {9, 10, 25, 35};
-        for (int k = 0; k < 4; k++) {
+        int[][] want = {{0, 0, NONE, 0, 0}, {1, 1, 0, 0, 0}, {1, 0, 1, 0, 0}, {0, 0, 1, 1, 0}, {0, 0, 1, 1, 0}};
+        int[] minute = {9, 10, 25, 35, 3000};
+        for (int k = 0; k < minute.length; k++) {
             Land.upTo(x, minute[k]);
             for (int what = 0; what < 5; what++) {
                 due("at " + minute[k] + " run(0, 0, " + what + ")", x.run(0, 0, what), want[k][what]);
@@ -396,6 +396,33 @@ public final class CarryingTest {
         due("run(-1, 0, 0)", x.run(-1, 0, 0), NONE);
         due("run(0, 7, 0)", x.run(0, 7, 0), NONE);
         due("run(0, -1, 0)", x.run(0, -1, 0), NONE);
+        goneFrom();
+    }
+
+    /** Promise 25, what 2: only its last stop counts as one from which a run does not go. */
+    private static void goneFrom() {
+        InlandMails x = Land.of(3);
+        Land.train(x, 0, 0, 0);
+        Land.train(x, 1, 0, 5);
+        Land.train(x, 0, 0, 0, 1, 10, 20);
+        int full = Land.train(x, 0, 10, 10, 1, 20, 20, 0, 30, 30, 1, 40, 40, 2, 50, 50, 1, 60, 60, 0, 70, 70, 1, 80, 80);
+        due("of one stop, at its GOES", x.run(0, 0, 2), NONE);
+        due("of two, at the first one's GOES", x.run(2, 0, 2), 0);
+        yes("late", x.late(full, 0, 3));
+        for (int minute : new int[] {1, 12, 13, 22, 23, 62, 63, 72, 73, 82, 83, 93, 500}) {
+            Land.upTo(x, minute);
+            int stop = minute < 13 ? NONE : Math.min((minute - 13) / 10, 6);
+            due("of eight, the last but one is the last, at " + minute, x.run(full, 0, 2), stop);
+            due("of two, the first one stays", x.run(2, 0, 2), 0);
+            due("of one, never", x.run(0, 0, 2), NONE);
+            due("of one that stands, never", x.run(1, 0, 2), NONE);
+        }
+        Land.upTo(x, 10079);
+        for (int d = 0; d < 7; d++) {
+            due("of one on day " + d, x.run(0, d, 2), NONE);
+            due("of two on day " + d, x.run(2, d, 2), 0);
+            due("of eight on day " + d, x.run(full, d, 2), 6);
+        }
     }
 
     /** Promise 26. */

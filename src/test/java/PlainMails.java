@@ -628,7 +628,7 @@ final class PlainMails {
 
     int goneFrom(int t, int d) {
         int gone = NONE;
-        for (int i = 0; i < trains.get(t).stops.size(); i++) {
+        for (int i = 0; i < trains.get(t).stops.size() - 1; i++) {
             if (now >= goesAt(t, d, i)) {
                 gone = i;
             }
