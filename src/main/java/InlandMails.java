@@ -36,10 +36,13 @@ public final class InlandMails {
     private final Crew crew = new Crew();
     private final Statutes statutes = new Statutes();
     private final Letter[] letters = new Letter[LETTERS];
-    private final Bags bags = new Bags(table, ways, crew, letters, true);
-    private final Bags trial = new Bags(table, ways, crew, letters, false);
+    private final Leads leads = new Leads(table, ways, letters);
+    private final Bags bags = new Bags(table, ways, crew, letters, leads);
+    private final Bags trial = new Bags(table, ways, crew, letters, null);
     private final Clock[] clocks = new Clock[TRAINS];
-    private final Robbery[] robberies = new Robbery[ROBBERIES];
+    private final int[] robbedRun = new int[ROBBERIES];
+    private final int[] robbedAt = new int[ROBBERIES];
+    private final int[] robberyOf = new int[LETTERS];
     private int robberyCount;
     private int now;
     private boolean bestKnown;
@@ -47,7 +50,11 @@ public final class InlandMails {
     private int bestOne;
     private int bestTwo;
 
+    /** All rows and parts are made here and in theirs: no call makes any. */
     public InlandMails() {
+        for (int l = 0; l < LETTERS; l++) {
+            letters[l] = new Letter();
+        }
         for (int t = 0; t < TRAINS; t++) {
             clocks[t] = new Clock();
         }
@@ -129,11 +136,11 @@ public final class InlandMails {
         if (!table.hasRun(t, d) || i < 0 || i >= table.stops[t] - 1) {
             return false;
         }
-        int slot = STOPS * (TRAINS * d + t) + i;
-        if (!table.fast[STOPS * t + i] || table.missed[slot] || table.comesAt(t, d, i) <= now) {
+        int run = TRAINS * d + t;
+        if (!table.fast[STOPS * t + i] || table.isMissed(run, i) || table.comesAt(t, d, i) <= now) {
             return false;
         }
-        table.missed[slot] = true;
+        table.missed[run] |= 1 << i;
         bestKnown = false;
         return true;
     }
@@ -143,6 +150,7 @@ public final class InlandMails {
             return NONE;
         }
         bestKnown = false;
+        ways.refresh();
         bags.carry(now, now + n);
         now += n;
         return now;
@@ -189,7 +197,7 @@ public final class InlandMails {
             statutes.reader.drop();
             return NONE;
         }
-        return statutes.add(statutes.reader.read(day));
+        return statutes.reader.read(statutes.next(day)) ? statutes.add() : NONE;
     }
 
     public int fault(int what) {
@@ -231,13 +239,13 @@ public final class InlandMails {
         if (bags.count >= LETTERS) {
             return NONE;
         }
-        Letter letter = new Letter(kind, from, to, sheets, weight, who);
+        int l = bags.count;
+        Letter letter = letters[l];
+        letter.begin(kind, from, to, sheets, weight, who);
         letter.minute = now;
         letter.miles = Math.max(roads.between(from, to), 0);
         letter.cross = roads.isCross(from, to);
-        int l = bags.count;
         letter.franksAhead = franksAhead(letter);
-        letters[l] = letter;
         statutes.price(letter);
         bags.begin(now, from);
         bestKnown = false;
@@ -308,26 +316,24 @@ public final class InlandMails {
         if (letter == null || i < 0 || i >= letter.rowCount) {
             return NONE;
         }
+        int row = leads.rowOf(l, i, now);
         switch (what) {
-            case 0: return letter.rowMinute(i);
-            case 1: return letter.rowState(i);
-            case 2: return letter.rowPlace(i);
+            case 0: return Letter.minuteOf(row);
+            case 1: return Letter.stateOf(row);
+            case 2: return Letter.placeOf(row);
             default: return NONE;
         }
     }
 
     public int where(int l, int minute, int what) {
         Letter letter = letterOf(l);
-        if (letter == null || minute < 0 || minute > now) {
+        if (letter == null || minute < letter.minute || minute > now) {
             return NONE;
         }
-        int row = letter.rowAt(minute);
-        if (row == NONE) {
-            return NONE;
-        }
+        int row = leads.rowOf(l, letter.rowCount - 1, minute);
         switch (what) {
-            case 0: return letter.rowState(row);
-            case 1: return letter.rowPlace(row);
+            case 0: return Letter.stateOf(row);
+            case 1: return Letter.placeOf(row);
             default: return NONE;
         }
     }
@@ -419,7 +425,7 @@ public final class InlandMails {
 
     public boolean found(int l, int town) {
         Letter letter = letterOf(l);
-        if (letter == null || bags.state[l] != DEAD || letter.placeOf(town) == NONE) {
+        if (letter == null || bags.state[l] != DEAD || letter.rowOfPlace(town) == NONE) {
             return false;
         }
         bags.move(l, now, FOUND, town);
@@ -432,30 +438,30 @@ public final class InlandMails {
             return NONE;
         }
         int run = TRAINS * d + t;
-        Robbery robbery = new Robbery(run, now, bags.aboardOf(run, true));
+        int k = robberyCount;
+        robbedRun[k] = run;
+        robbedAt[k] = now;
+        robberyCount++;
         for (int l = 0; l < bags.count; l++) {
             if (bags.isAboard(l, run) && bags.sorted[l]) {
-                robbery.take(l, letters[l].owed());
+                robberyOf[l] = k;
                 bags.move(l, now, ROBBED, run);
             }
         }
-        robberies[robberyCount] = robbery;
-        robberyCount++;
         bestKnown = false;
-        return robberyCount - 1;
+        return k;
     }
 
     public int robbery(int k, int what) {
         if (k < 0 || k >= robberyCount) {
             return NONE;
         }
-        Robbery robbery = robberies[k];
         switch (what) {
-            case 0: return robbery.run;
-            case 1: return robbery.minute;
-            case 2: return robbery.count;
-            case 3: return robbery.owed;
-            default: return what < 10 ? NONE : robbery.letterAt(what - 10);
+            case 0: return robbedRun[k];
+            case 1: return robbedAt[k];
+            case 2: return taken(k);
+            case 3: return owedOfTaken(k);
+            default: return what < 10 ? NONE : takenLetter(k, what - 10);
         }
     }
 
@@ -613,7 +619,45 @@ public final class InlandMails {
         return i != NONE && table.comesAt(t, d, i + 1) > now;
     }
 
+    private boolean isTaken(int l, int k) {
+        return bags.state[l] == ROBBED && robberyOf[l] == k;
+    }
+
+    private int taken(int k) {
+        int count = 0;
+        for (int l = 0; l < bags.count; l++) {
+            if (isTaken(l, k)) {
+                count++;
+            }
+        }
+        return count;
+    }
+
+    private int owedOfTaken(int k) {
+        int sum = 0;
+        for (int l = 0; l < bags.count; l++) {
+            if (isTaken(l, k)) {
+                sum += letters[l].owed();
+            }
+        }
+        return sum;
+    }
+
+    private int takenLetter(int k, int i) {
+        int count = 0;
+        for (int l = 0; l < bags.count; l++) {
+            if (isTaken(l, k)) {
+                if (count == i) {
+                    return l;
+                }
+                count++;
+            }
+        }
+        return NONE;
+    }
+
     private int outcome() {
+        ways.refresh();
         trial.copy(bags);
         trial.carry(now, LAST_MINUTE);
         return trial.sumOfMinutes();
@@ -702,7 +746,8 @@ public final class InlandMails {
         final int[] goes = new int[TRAINS * STOPS];
         final boolean[] fast = new boolean[TRAINS * STOPS];
         final int[] delay = new int[RUNS];
-        final boolean[] missed = new boolean[RUNS * STOPS];
+        /** A bit for each stop. */
+        final int[] missed = new int[RUNS];
 
         boolean has(int t) {
             return t >= 0 && t < trains;
@@ -710,6 +755,10 @@ public final class InlandMails {
 
         boolean hasRun(int t, int d) {
             return has(t) && d >= 0 && d < DAYS;
+        }
+
+        boolean isMissed(int run, int i) {
+            return (missed[run] >> i & 1) == 1;
         }
 
         int add(int t, int atTown, int coming, int going, boolean isFast) {
@@ -753,24 +802,24 @@ public final class InlandMails {
     }
 
     /**
-     * The comings and goings in their order, and for each going the best way on from it. A way is
-     * one number of which the lesser is the better: minute of coming, runs, train, day, stop at
-     * which the first run is taken, stop at which it is left.
+     * The comings and goings in their order, and for each going the towns to which the best way
+     * begins with it. A way is one number of which the lesser is the better: minute of coming,
+     * runs, train, day, stop at which the first run is taken, stop at which it is left.
      */
     private static final class Ways {
         static final long NO_WAY = Long.MAX_VALUE;
         private static final int GOING = 1 << 10;
-        private static final int MOST = RUNS * 2 * STOPS;
+        private static final int MOST = RUNS * 2 * (STOPS - 1);
 
         boolean fresh;
         int count;
         private final Table table;
-        private int[] keys;
-        private long[] best;
-        private long[] ride;
-        private int[] firstOfMinute;
-        private final int[] head = new int[TOWNS];
-        private final int[] headMinute = new int[TOWNS];
+        private final int[] keys = new int[MOST];
+        /** Of each going three bits a town: where the best way that begins with it leaves the run, or 0. */
+        private final long[] leaves = new long[RUNS * STOPS];
+        /** While the goings are gone through: the best ways on for those in a run, and in a town. */
+        private final long[] ride = new long[RUNS * TOWNS];
+        private final long[] stay = new long[TOWNS * TOWNS];
 
         Ways(Table table) {
             this.table = table;
@@ -800,26 +849,18 @@ public final class InlandMails {
             return (int) way & 7;
         }
 
-        /** The rows are made when they are asked for first: most objects stay small without. */
         void refresh() {
             if (fresh) {
                 return;
             }
-            if (keys == null) {
-                keys = new int[MOST];
-                best = new long[RUNS * STOPS * TOWNS];
-                ride = new long[RUNS * TOWNS];
-                firstOfMinute = new int[RUNS * STOPS];
-            }
             collect();
             sortKeys();
-            linkMinutes();
             trace();
             fresh = true;
         }
 
         int keyAt(int e) {
-            return e >= 0 && e < count && keys != null ? keys[e] : 0;
+            return e >= 0 && e < count ? keys[e] : 0;
         }
 
         int firstBehind(int minute) {
@@ -855,33 +896,44 @@ public final class InlandMails {
             return table.town[STOPS * trainIn(key) + stopIn(key)];
         }
 
-        private static int slotIn(int key) {
+        static int slotIn(int key) {
             return STOPS * (TRAINS * dayIn(key) + trainIn(key)) + stopIn(key);
         }
 
-        /** Whether a way's first run is that which goes, at this stop. */
-        static boolean begins(long way, int key) {
-            return way != NO_WAY && trainOf(way) == trainIn(key) && dayOf(way) == dayIn(key)
-                && takenOf(way) == stopIn(key);
+        /** The stop at which the best way that begins with this going leaves the run; 0 if none does. */
+        int leftBehind(int key, int to) {
+            return (int) (leaves[slotIn(key)] >> 3 * to) & 7;
         }
 
-        /** The best way from where the run stands to another town, at the minute at which it goes. */
-        long bestAtGoing(int run, int stop, int to) {
-            if (best == null || firstOfMinute == null) {
-                return NO_WAY;
+        /** The going with which the best way begins. */
+        private int firstTaken(int town, int minute, int to) {
+            for (int e = 0; e < count; e++) {
+                int key = keys[e];
+                if (isGoing(key) && minuteIn(key) >= minute && townIn(key) == town && leftBehind(key, to) > 0) {
+                    return key;
+                }
             }
-            return best[TOWNS * firstOfMinute[STOPS * run + stop] + to];
+            return NONE;
         }
 
         long bestFrom(int town, int minute, int to) {
             refresh();
-            for (int e = 0; e < count; e++) {
-                int key = keyAt(e);
-                if (isGoing(key) && minuteIn(key) >= minute && townIn(key) == town) {
-                    return best[TOWNS * slotIn(key) + to];
+            int first = firstTaken(town, minute, to);
+            int key = first;
+            for (int runs = 1; runs <= RUNS && key != NONE; runs++) {
+                int left = leftBehind(key, to);
+                int there = table.town[STOPS * trainIn(key) + left];
+                int comes = table.comesAt(trainIn(key), dayIn(key), left);
+                if (there == to) {
+                    return (long) comes << 21 | runs << 13 | legOf(first) | stopIn(first) << 3 | leftBehind(first, to);
                 }
+                key = firstTaken(there, comes, to);
             }
             return NO_WAY;
+        }
+
+        private static int legOf(int key) {
+            return trainIn(key) << 9 | dayIn(key) << 6;
         }
 
         private void collect() {
@@ -921,58 +973,58 @@ public final class InlandMails {
             }
         }
 
-        private void linkMinutes() {
-            Arrays.fill(headMinute, NONE);
-            for (int e = 0; e < count; e++) {
-                int key = keys[e];
-                if (isGoing(key)) {
-                    int town = townIn(key);
-                    if (headMinute[town] != minuteIn(key)) {
-                        headMinute[town] = minuteIn(key);
-                        head[town] = slotIn(key);
-                    }
-                    firstOfMinute[slotIn(key)] = head[town];
-                }
-            }
-        }
-
         /** From the last to the first, so that each way on is known before the run that leads to it. */
         private void trace() {
+            Arrays.fill(leaves, 0);
             Arrays.fill(ride, NO_WAY);
-            Arrays.fill(head, NONE);
+            Arrays.fill(stay, NO_WAY);
             for (int e = count - 1; e >= 0; e--) {
                 int key = keys[e];
                 if (isGoing(key)) {
-                    takeRun(key, slotIn(key), townIn(key));
+                    takeRun(key, townIn(key));
                 } else {
-                    leaveRun(key, slotIn(key), townIn(key));
+                    leaveRun(key, townIn(key));
                 }
             }
         }
 
-        private void takeRun(int key, int slot, int town) {
+        private void takeRun(int key, int town) {
+            int slot = slotIn(key);
             for (int to = 0; to < TOWNS; to++) {
-                long own = ride[TOWNS * (slot / STOPS) + to];
-                if (own != NO_WAY) {
-                    own += (long) stopIn(key) << 3;
+                long way = ride[TOWNS * (slot / STOPS) + to];
+                if (way != NO_WAY) {
+                    way += (long) stopIn(key) << 3;
                 }
-                long later = head[town] < 0 ? NO_WAY : best[TOWNS * head[town] + to];
-                best[TOWNS * slot + to] = Math.min(own, later);
+                int at = TOWNS * town + to;
+                if (way < stay[at]) {
+                    if (takenAt(stay[at]) == minuteIn(key)) {
+                        leaves[slotOf(stay[at])] &= ~(7L << 3 * to);
+                    }
+                    leaves[slot] |= (way & 7) << 3 * to;
+                    stay[at] = way;
+                }
             }
-            head[town] = slot;
         }
 
-        private void leaveRun(int key, int slot, int town) {
-            long leg = trainIn(key) << 9 | dayIn(key) << 6 | stopIn(key);
+        private int takenAt(long way) {
+            return way == NO_WAY ? NONE : table.goesAt(trainOf(way), dayOf(way), takenOf(way));
+        }
+
+        private static int slotOf(long way) {
+            return STOPS * (TRAINS * dayOf(way) + trainOf(way)) + takenOf(way);
+        }
+
+        private void leaveRun(int key, int town) {
+            int leg = legOf(key) | stopIn(key);
             for (int to = 0; to < TOWNS; to++) {
-                long on = head[town] < 0 ? NO_WAY : best[TOWNS * head[town] + to];
+                long on = stay[TOWNS * town + to];
                 long way = NO_WAY;
                 if (to == town) {
                     way = (long) minuteIn(key) << 21 | 1 << 13 | leg;
                 } else if (on != NO_WAY) {
                     way = ((on >> 13) + 1) << 13 | leg;
                 }
-                int at = TOWNS * (slot / STOPS) + to;
+                int at = TOWNS * (TRAINS * dayIn(key) + trainIn(key)) + to;
                 ride[at] = Math.min(ride[at], way);
             }
         }
@@ -1024,15 +1076,15 @@ public final class InlandMails {
         }
     }
 
-    /** One letter: what was told of it as it was posted, its lead, its places. */
+    /** One letter: what was told of it as it was posted, the last row of its lead, its places. */
     private static final class Letter {
         private static final int PLACES = 4;
-        final int kind;
-        final int from;
-        final int to;
-        final int sheets;
-        final int weight;
-        final int who;
+        int kind;
+        int from;
+        int to;
+        int sheets;
+        int weight;
+        int who;
         int minute;
         int miles;
         boolean cross;
@@ -1044,17 +1096,17 @@ public final class InlandMails {
         int deadDays = 3;
         boolean nobody;
         int rowCount;
-        private int[] rows = new int[4];
+        int lastRow;
         int places;
-        private int[] placeRows;
+        private final int[] placeRows = new int[PLACES];
 
-        Letter(int kind, int from, int to, int sheets, int weight, int who) {
-            this.kind = kind;
-            this.from = from;
-            this.to = to;
-            this.sheets = sheets;
-            this.weight = weight;
-            this.who = who;
+        void begin(int itsKind, int comesFrom, int goesTo, int itsSheets, int itsWeight, int sender) {
+            kind = itsKind;
+            from = comesFrom;
+            to = goesTo;
+            sheets = itsSheets;
+            weight = itsWeight;
+            who = sender;
         }
 
         int dayOf() {
@@ -1066,34 +1118,32 @@ public final class InlandMails {
         }
 
         void note(int atMinute, int state, int place) {
-            if (rowCount >= rows.length) {
-                rows = Arrays.copyOf(rows, 2 * rows.length);
-            }
-            rows[rowCount] = atMinute << 10 | state << 7 | place;
+            lastRow = row(atMinute, state, place);
             rowCount++;
         }
 
-        /** The caller has seen that there is such a row. */
-        int rowMinute(int i) {
-            return rows[i] >> 10;
-        }
-
-        int rowState(int i) {
-            return rows[i] >> 7 & 7;
-        }
-
-        int rowPlace(int i) {
-            return rows[i] & 127;
-        }
-
-        int rowAt(int atMinute) {
-            int row = NONE;
-            for (int i = 0; i < rowCount; i++) {
-                if (rowMinute(i) <= atMinute) {
-                    row = i;
-                }
+        /** What becomes of it as it is put down in a town. */
+        int stateIn(int town) {
+            if (to != town) {
+                return HOLE;
             }
-            return row;
+            return nobody ? DEAD : GIVEN;
+        }
+
+        static int row(int atMinute, int state, int place) {
+            return atMinute << 10 | state << 7 | place;
+        }
+
+        static int minuteOf(int row) {
+            return row >> 10;
+        }
+
+        static int stateOf(int row) {
+            return row >> 7 & 7;
+        }
+
+        static int placeOf(int row) {
+            return row & 127;
         }
 
         /** The caller has seen that there is such a place. */
@@ -1105,7 +1155,7 @@ public final class InlandMails {
             return 100 - (placeRows[i] >> 4);
         }
 
-        int placeOf(int town) {
+        int rowOfPlace(int town) {
             for (int i = 0; i < places; i++) {
                 if (placeTown(i) == town) {
                     return i;
@@ -1116,10 +1166,7 @@ public final class InlandMails {
 
         /** A place's row is the lesser, the earlier it comes in the order: what its chance lacks, then its town. */
         boolean tell(int town, int chance) {
-            if (placeRows == null) {
-                placeRows = new int[PLACES];
-            }
-            int gap = placeOf(town);
+            int gap = rowOfPlace(town);
             if (gap == NONE) {
                 if (places >= PLACES) {
                     return false;
@@ -1161,8 +1208,71 @@ public final class InlandMails {
     }
 
     /**
+     * The leads of all letters. Each coming and each going has a bit for each letter that it moved,
+     * so that however often letters change, there is room.
+     */
+    private static final class Leads {
+        private static final int WORD = 64;
+        private static final int WORDS = (LETTERS + WORD - 1) / WORD;
+        private final long[] moved = new long[2 * WORDS * RUNS * STOPS];
+        private final Table table;
+        private final Ways ways;
+        private final Letter[] letters;
+
+        Leads(Table table, Ways ways, Letter[] letters) {
+            this.table = table;
+            this.ways = ways;
+            this.letters = letters;
+        }
+
+        void mark(int key, int l) {
+            moved[wordOf(key, l)] |= 1L << l % WORD;
+        }
+
+        private boolean isMarked(int key, int l) {
+            return (moved[wordOf(key, l)] >> l % WORD & 1) == 1;
+        }
+
+        private static int wordOf(int key, int l) {
+            int happening = 2 * Ways.slotIn(key) + (Ways.isGoing(key) ? 1 : 0);
+            return WORDS * happening + l / WORD;
+        }
+
+        /** Row i, or the last one ahead of it that is not behind the minute. The caller has seen that both can be. */
+        int rowOf(int l, int i, int minute) {
+            Letter letter = letters[l];
+            if (i == letter.rowCount - 1 && Letter.minuteOf(letter.lastRow) <= minute) {
+                return letter.lastRow;
+            }
+            ways.refresh();
+            int row = Letter.row(letter.minute, HOLE, letter.from);
+            int n = 0;
+            for (int e = ways.firstBehind(letter.minute); e < ways.count && n < i; e++) {
+                int key = ways.keyAt(e);
+                if (Ways.minuteIn(key) > minute) {
+                    break;
+                }
+                if (isMarked(key, l)) {
+                    row = rowBy(key, letter);
+                    n++;
+                }
+            }
+            return row;
+        }
+
+        private int rowBy(int key, Letter letter) {
+            int t = Ways.trainIn(key);
+            if (Ways.isGoing(key)) {
+                return Letter.row(Ways.minuteIn(key), ABOARD, TRAINS * Ways.dayIn(key) + t);
+            }
+            int town = table.town[STOPS * t + Ways.stopIn(key)];
+            return Letter.row(Ways.minuteIn(key), letter.stateIn(town), town);
+        }
+    }
+
+    /**
      * Where each letter is, and what happens to it as minutes go by: the real bags, or those of a
-     * trial, of which no lead is kept.
+     * trial, of which no lead is kept (null).
      */
     private static final class Bags {
         int count;
@@ -1181,14 +1291,14 @@ public final class InlandMails {
         private final Ways ways;
         private final Crew crew;
         private final Letter[] letters;
-        private final boolean real;
+        private final Leads leads;
 
-        Bags(Table table, Ways ways, Crew crew, Letter[] letters, boolean real) {
+        Bags(Table table, Ways ways, Crew crew, Letter[] letters, Leads leads) {
             this.table = table;
             this.ways = ways;
             this.crew = crew;
             this.letters = letters;
-            this.real = real;
+            this.leads = leads;
         }
 
         /** The next letter begins in the hole of the town where it is posted. */
@@ -1221,7 +1331,7 @@ public final class InlandMails {
             place[l] = toPlace;
             since[l] = minute;
             sorted[l] = false;
-            if (real) {
+            if (leads != null) {
                 letters[l].note(minute, toState, toPlace);
             }
         }
@@ -1276,9 +1386,8 @@ public final class InlandMails {
             return sum;
         }
 
-        /** All that happens behind one minute, up to another one. */
+        /** All that happens behind one minute, up to another one. The ways are fresh. */
         void carry(int from, int upTo) {
-            ways.refresh();
             int day = from / DAY + 1;
             for (int e = ways.firstBehind(from); e < ways.count && moving > 0; e++) {
                 int key = ways.keyAt(e);
@@ -1312,7 +1421,7 @@ public final class InlandMails {
             int t = Ways.trainIn(key);
             int i = Ways.stopIn(key);
             int run = TRAINS * Ways.dayIn(key) + t;
-            if (aboard[run] == 0 || table.missed[STOPS * run + i]) {
+            if (aboard[run] == 0 || table.isMissed(run, i)) {
                 return;
             }
             boolean last = i == table.stops[t] - 1;
@@ -1324,16 +1433,16 @@ public final class InlandMails {
                         left[l]++;
                         leftBy[run]++;
                     }
-                    move(l, minute, stateIn(l, town), town);
+                    move(l, minute, letters[l].stateIn(town), town);
+                    mark(key, l);
                 }
             }
         }
 
-        private int stateIn(int l, int town) {
-            if (letters[l].to != town) {
-                return HOLE;
+        private void mark(int key, int l) {
+            if (leads != null) {
+                leads.mark(key, l);
             }
-            return letters[l].nobody ? DEAD : GIVEN;
         }
 
         private void goes(int key, int minute) {
@@ -1341,14 +1450,13 @@ public final class InlandMails {
             int i = Ways.stopIn(key);
             int run = TRAINS * Ways.dayIn(key) + t;
             int town = table.town[STOPS * t + i];
-            if (inHole[town] > 0 && !table.missed[STOPS * run + i]) {
+            if (inHole[town] > 0 && !table.isMissed(run, i)) {
                 for (int l = 0; l < count; l++) {
-                    if (state[l] == HOLE && place[l] == town) {
-                        long way = ways.bestAtGoing(run, i, letters[l].to);
-                        if (Ways.begins(way, key)) {
-                            move(l, minute, ABOARD, run);
-                            goal[l] = Ways.leftOf(way);
-                        }
+                    int goesTo = state[l] == HOLE && place[l] == town ? ways.leftBehind(key, letters[l].to) : 0;
+                    if (goesTo > 0) {
+                        move(l, minute, ABOARD, run);
+                        goal[l] = goesTo;
+                        mark(key, l);
                     }
                 }
             }
@@ -1370,33 +1478,6 @@ public final class InlandMails {
                     }
                 }
             }
-        }
-    }
-
-    /** A robbery: what was taken. */
-    private static final class Robbery {
-        final int run;
-        final int minute;
-        int count;
-        int owed;
-        private final int[] taken;
-
-        Robbery(int run, int minute, int most) {
-            this.run = run;
-            this.minute = minute;
-            this.taken = new int[Math.max(most, 0)];
-        }
-
-        void take(int l, int owedOfIt) {
-            if (count < taken.length) {
-                taken[count] = l;
-                count++;
-                owed += owedOfIt;
-            }
-        }
-
-        int letterAt(int i) {
-            return i >= 0 && i < count ? taken[i] : NONE;
         }
     }
 
@@ -1459,7 +1540,7 @@ public final class InlandMails {
         }
     }
 
-    /** An act as it was read. The codes of its charge lines stand in one row, each up to an END. */
+    /** An act as it was read. The codes of its charge lines stand in the reader's row, each up to an END. */
     private static final class Act {
         static final int LINES = 24;
         static final int END = -100;
@@ -1474,27 +1555,35 @@ public final class InlandMails {
         static final int AND = -18;
         static final int OR = -19;
 
-        final int day;
+        int day;
         int lines;
         int lateMore;
-        int lateAfter = 1439;
+        int lateAfter;
         int frank;
         int ship;
         int sign;
-        int dead = 3;
+        int dead;
         int chargeLines;
         final int[] chargeAt = new int[LINES];
         final int[] whenAt = new int[LINES];
-        int[] code;
 
-        Act(int day) {
-            this.day = day;
+        /** A text that was refused may have left something. */
+        void begin(int fromDay) {
+            day = fromDay;
+            lines = 0;
+            lateMore = 0;
+            lateAfter = 1439;
+            frank = 0;
+            ship = 0;
+            sign = 0;
+            dead = 3;
+            chargeLines = 0;
         }
     }
 
     /** The acts, and charges by them. */
     private static final class Statutes {
-        private static final int ACTS = 6;
+        static final int ACTS = 6;
         private static final int MOST_CHARGE = 99999;
         final Reader reader = new Reader();
         int count;
@@ -1502,16 +1591,24 @@ public final class InlandMails {
         private final int[] asked = new int[7];
         private final int[] stack = new int[64];
 
+        Statutes() {
+            for (int k = 0; k < ACTS; k++) {
+                acts[k] = new Act();
+            }
+        }
+
         boolean mayBegin(int day) {
             int least = count > 0 ? acts[count - 1].day : 0;
             return count < ACTS && day >= least && day < DAYS;
         }
 
-        int add(Act act) {
-            if (act == null || count >= ACTS) {
-                return NONE;
-            }
-            acts[count] = act;
+        /** The caller has seen that one may begin on that day. */
+        Act next(int day) {
+            acts[count].begin(day);
+            return acts[count];
+        }
+
+        int add() {
             count++;
             return count - 1;
         }
@@ -1549,7 +1646,7 @@ public final class InlandMails {
             int line = lineFor(act, letter);
             int sum = 0;
             if (line != NONE) {
-                sum = Math.min(Math.max(worth(act.code, act.chargeAt[line]), 0), MOST_CHARGE);
+                sum = Math.min(Math.max(worth(act.chargeAt[line]), 0), MOST_CHARGE);
             }
             if (letter.minute % DAY > act.lateAfter) {
                 sum += act.lateMore;
@@ -1570,7 +1667,7 @@ public final class InlandMails {
         private int lineFor(Act act, Letter letter) {
             ask(letter);
             for (int i = 0; i < act.chargeLines; i++) {
-                if (act.whenAt[i] == NONE || worth(act.code, act.whenAt[i]) != 0) {
+                if (act.whenAt[i] == NONE || worth(act.whenAt[i]) != 0) {
                     return i;
                 }
             }
@@ -1588,10 +1685,10 @@ public final class InlandMails {
             asked[6] = letter.cross ? 1 : 0;
         }
 
-        private int worth(int[] code, int at) {
+        private int worth(int at) {
             int top = 0;
-            for (int p = at; p >= 0 && p < code.length && code[p] != Act.END; p++) {
-                int op = code[p];
+            for (int p = at; p < Reader.MOST_CODES && reader.codeAt(p) != Act.END; p++) {
+                int op = reader.codeAt(p);
                 if (op > Act.ADD) {
                     if (top >= stack.length || -1 - op >= asked.length) {
                         return 0;
@@ -1627,6 +1724,7 @@ public final class InlandMails {
     /** The tape, and the reading of it as an act's text. */
     private static final class Reader {
         static final int TAPE = 600;
+        static final int MOST_CODES = TAPE * Statutes.ACTS;
         private static final int OPEN = 8;
         private static final int CHARGE_WORD = 0;
         private static final int LATE_WORD = 1;
@@ -1655,14 +1753,13 @@ public final class InlandMails {
         int fault;
         int faultPlace = NONE;
         private final int[] tape = new int[TAPE];
-        /** The tokens: their kinds (a sign is its own byte), where they start, what numbers are worth. */
-        private final int[] kinds = new int[TAPE + 1];
-        private final int[] starts = new int[TAPE + 1];
-        private final int[] values = new int[TAPE + 1];
-        private int tokens;
+        /** Of each token: its kind (a sign is its own byte), from bit 7 its place, from bit 17 a number's worth. */
+        private final int[] tokens = new int[TAPE + 1];
+        private int count;
         private int current;
         private int token;
-        private final int[] code = new int[TAPE + 2 * Act.LINES];
+        /** The codes of all acts, one behind the other, four in a long: none has more than its text has signs. */
+        private final long[] codes = new long[MOST_CODES / 4];
         private int used;
 
         void take(int four) {
@@ -1680,15 +1777,15 @@ public final class InlandMails {
             faultPlace = NONE;
         }
 
-        /** The act that the tape tells, or null: the fault is known then. The tape is empty behind it. */
-        Act read(int day) {
+        /** Whether the tape tells an act: else the fault is known. The tape is empty behind it. */
+        boolean read(Act act) {
+            int before = used;
             scan();
             drop();
-            used = 0;
             current = 0;
-            token = kinds[0];
-            Act act = new Act(day);
-            for (int n = 0; n <= TAPE && token != TEXT_END; n++) {
+            token = tokens[0] & 127;
+            boolean good = true;
+            for (int n = 0; n <= TAPE && good && token != TEXT_END; n++) {
                 if (token > DEAD_WORD) {
                     refuse(1);
                 } else if (act.lines >= Act.LINES) {
@@ -1700,12 +1797,12 @@ public final class InlandMails {
                     act.lines++;
                     readRule(act);
                 }
-                if (fault != 0 || !skip(';')) {
-                    return null;
-                }
+                good = fault == 0 && skip(';');
             }
-            act.code = Arrays.copyOf(code, used);
-            return act;
+            if (!good) {
+                used = before;
+            }
+            return good;
         }
 
         private boolean readRule(Act act) {
@@ -1714,7 +1811,7 @@ public final class InlandMails {
             if (token != NUMBER) {
                 return refuse(1);
             }
-            int number = values[current];
+            int number = value();
             if (word == FRANK_WORD && number > 99) {
                 return refuse(2);
             }
@@ -1736,11 +1833,11 @@ public final class InlandMails {
             if (token != NUMBER) {
                 return refuse(1);
             }
-            if (values[current] > 1439) {
+            if (value() > 1439) {
                 return refuse(2);
             }
             act.lateMore = more;
-            act.lateAfter = values[current];
+            act.lateAfter = value();
             step();
             return true;
         }
@@ -1855,7 +1952,7 @@ public final class InlandMails {
                 if (part && token != NUMBER) {
                     return refuse(1);
                 }
-                if (part && values[current] == 0) {
+                if (part && value() == 0) {
                     return refuse(2);
                 }
                 if (!readUnit(open)) {
@@ -1868,7 +1965,7 @@ public final class InlandMails {
 
         private boolean readUnit(int open) {
             if (token == NUMBER) {
-                put(values[current]);
+                put(value());
                 step();
                 return true;
             }
@@ -1904,27 +2001,37 @@ public final class InlandMails {
 
         /** The last token is the text's end, behind which none is asked. */
         private void step() {
-            if (current < tokens - 1) {
+            if (current < count - 1) {
                 current++;
             }
-            token = kinds[current];
+            token = tokens[current] & 127;
         }
 
         private boolean refuse(int which) {
             fault = which;
-            faultPlace = starts[current];
+            faultPlace = tokens[current] >> 7 & 1023;
             return false;
         }
 
         private void put(int op) {
-            if (used < code.length) {
-                code[used] = op;
+            if (used < MOST_CODES) {
+                int shift = 16 * (used % 4);
+                codes[used / 4] = codes[used / 4] & ~(0xffffL << shift) | (op & 0xffffL) << shift;
                 used++;
             }
         }
 
+        int codeAt(int p) {
+            return p >= 0 && p < MOST_CODES ? (short) (codes[p / 4] >> 16 * (p % 4)) : Act.END;
+        }
+
+        /** Of the token that is a number. */
+        private int value() {
+            return tokens[current] >> 17;
+        }
+
         private void scan() {
-            tokens = 0;
+            count = 0;
             for (int i = 0; i < length; i++) {
                 int c = tape[i];
                 if (isLetter(c)) {
@@ -1939,11 +2046,9 @@ public final class InlandMails {
         }
 
         private void addToken(int kind, int start, int value) {
-            if (tokens < kinds.length) {
-                kinds[tokens] = kind;
-                starts[tokens] = start;
-                values[tokens] = value;
-                tokens++;
+            if (count < tokens.length) {
+                tokens[count] = value << 17 | start << 7 | kind;
+                count++;
             }
         }
 
@@ -1971,7 +2076,7 @@ public final class InlandMails {
             for (; i < length && isDigit(tape[i]); i++) {
                 value = i - start < 4 ? value * 10 + tape[i] - '0' : NONE;
             }
-            addToken(value == NONE ? NO_TOKEN : NUMBER, start, value);
+            addToken(value == NONE ? NO_TOKEN : NUMBER, start, Math.max(value, 0));
             return i - 1;
         }
 

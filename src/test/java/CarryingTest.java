@@ -7,6 +7,7 @@ public final class CarryingTest {
     public static void main(String[] args) {
         lead();
         leadOfManyRows();
+        leadsOfAllLetters();
         where();
         sorter();
         seat();
@@ -19,6 +20,7 @@ public final class CarryingTest {
         missedAtSpeed();
         missedForAnother();
         missedAtTheStart();
+        missedTwice();
         run();
         account();
         nobody();
@@ -93,6 +95,38 @@ public final class CarryingTest {
             due("put down in", x.lead(0, 2 * k + 2, 2), 2 - k % 2 * 2);
         }
         due("the lead ends", x.lead(0, 29, 0), NONE);
+    }
+
+    /** Never sorted, all letters go with all runs, and are put down where they came from. */
+    private static void leadsOfAllLetters() {
+        InlandMails x = Land.of(2);
+        for (int t = 0; t < 10; t++) {
+            Land.train(x, 0, 10 + 100 * t, 10 + 100 * t, 1, 50 + 100 * t, 50 + 100 * t, 0, 90 + 100 * t, 95 + 100 * t);
+        }
+        for (int l = 0; l < 119; l++) {
+            Land.letter(x, 0, 1);
+        }
+        x.minutes(60);
+        Land.letter(x, 0, 1);
+        Land.upTo(x, 10079);
+        for (int l = 0; l < 120; l++) {
+            int first = l == 119 ? 1 : 0;
+            due("left", x.of(l, 12), 70 - first);
+            due("posted at", x.lead(l, 0, 0), 60 * first);
+            for (int k = first; k < 70; k++) {
+                int minute = 1440 * (k / 10) + 100 * (k % 10) + 10;
+                int i = 2 * (k - first) + 1;
+                due("aboard at", x.lead(l, i, 0), minute);
+                due("aboard", x.lead(l, i, 1), 1);
+                due("of the run", x.lead(l, i, 2), k);
+                due("put down at", x.lead(l, i + 1, 0), minute + 80);
+                due("put down", x.lead(l, i + 1, 1), 0);
+                due("where it came from", x.lead(l, i + 1, 2), 0);
+                due("at the end of the minute ahead", x.where(l, minute + 79, 1), k);
+                due("at the end of that minute", x.where(l, minute + 80, 0), 0);
+            }
+            due("the lead ends", x.lead(l, 141 - 2 * first, 0), NONE);
+        }
     }
 
     /** Promise 22. */
@@ -367,6 +401,34 @@ public final class CarryingTest {
         due("the next run takes it", x.of(0, 8), 10);
         x.minutes(10);
         due("the last stop is fast: given", x.of(0, 7), 2);
+    }
+
+    /** One run misses two stops, whichever is told first. */
+    private static void missedTwice() {
+        InlandMails x = Land.of(5);
+        x.train();
+        x.stop(0, 0, 10, 10, false);
+        x.stop(0, 1, 20, 20, true);
+        x.stop(0, 2, 30, 30, true);
+        x.stop(0, 3, 40, 40, true);
+        x.stop(0, 4, 50, 50, true);
+        Land.sorterIn(x, 0, 9, ALL);
+        Land.letter(x, 0, 1);
+        Land.letter(x, 0, 2);
+        Land.letter(x, 1, 4);
+        Land.letter(x, 2, 4);
+        Land.letter(x, 3, 4);
+        yes("miss", x.miss(0, 0, 2));
+        yes("miss", x.miss(0, 0, 1));
+        x.minutes(30);
+        due("for the first, aboard yet", x.of(0, 7), 1);
+        due("for the second, aboard yet", x.of(1, 7), 1);
+        x.minutes(10);
+        rows(x, 0, 0, 0, 0, 10, 1, 0, 40, 0, 3);
+        rows(x, 1, 0, 0, 0, 10, 1, 0, 40, 0, 3);
+        rows(x, 2, 0, 0, 1);
+        rows(x, 3, 0, 0, 2);
+        rows(x, 4, 0, 0, 3, 40, 1, 0);
     }
 
     /** Promise 25. */

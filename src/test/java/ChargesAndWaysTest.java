@@ -10,6 +10,7 @@ public final class ChargesAndWaysTest {
         charge();
         chargeSums();
         chargeTests();
+        fullActs();
         franks();
         way();
         wayTies();
@@ -205,6 +206,30 @@ public final class ChargesAndWaysTest {
         holds("not 1 = 1 or not 1 = 2 and 2 = 2", true);
         holds("(sheets + 1) * 2 = 8", true);
         holds("weight / 2 > 12", false);
+    }
+
+    /** As many acts as there may be, of texts as long as may be, with others refused between. */
+    private static void fullActs() {
+        InlandMails x = Land.of(2);
+        for (int k = 0; k < 6; k++) {
+            due("refused", Land.act(x, k, longSum(k + 1) + "+"), NONE);
+            due("at the end", x.fault(1), 599);
+            due("act " + k, Land.act(x, k, longSum(k) + ";"), k);
+        }
+        Land.letter(x, 0, 1);
+        for (int k = 0; k < 6; k++) {
+            due("tried(" + k + ")", x.tried(k), k + 295);
+        }
+    }
+
+    /** Of 598 signs. */
+    private static String longSum(int first) {
+        StringBuilder text = new StringBuilder("charge ");
+        text.append(first);
+        while (text.length() < 598) {
+            text.append("+1");
+        }
+        return text.toString();
     }
 
     /** Promise 19: franks. */

@@ -117,6 +117,8 @@ public final class LanguageTest {
         for (String word : words) {
             DUE.is("the word " + word, Pattern.compile("\\b" + word + "\\b").matcher(code).find(), false);
         }
+        DUE.is("no clone", code.contains("clone("), false);
+        DUE.is("no values()", code.contains("values("), false);
         DUE.is("no lambda", code.contains("->"), false);
         DUE.is("no method reference", code.contains("::"), false);
         Matcher imports = Pattern.compile("import ([^;]*);").matcher(code);
@@ -124,7 +126,7 @@ public final class LanguageTest {
             DUE.is("import " + imports.group(1), Arrays.asList(LIBRARY).contains(imports.group(1)), true);
         }
         Matcher calls = Pattern.compile("\\b(Arrays|Math|System|Integer|Long)\\.(\\w+)").matcher(code);
-        Set<String> good = new HashSet<>(Arrays.asList("Arrays.fill", "Arrays.copyOf", "Math.min", "Math.max",
+        Set<String> good = new HashSet<>(Arrays.asList("Arrays.fill", "Math.min", "Math.max",
             "System.arraycopy", "Integer.MAX_VALUE", "Long.MAX_VALUE"));
         while (calls.find()) {
             DUE.is("library: " + calls.group(), good.contains(calls.group()), true);
@@ -133,17 +135,32 @@ public final class LanguageTest {
         lengths(code);
     }
 
-    /** A method stands four or eight blanks in; its last line is a brace as far in. */
+    /**
+     * A method stands four or eight blanks in; its last line is a brace as far in. Constructors alone
+     * make rows and parts.
+     */
     private static void lengths(String code) {
         String[] lines = code.split("\n");
-        int start = -1;
+        String header = " {4}( {4})?(?!for |if |switch |while |do )[A-Za-z].*\\) \\{";
+        int methods = 0;
+        int made = 0;
         for (int i = 0; i < lines.length; i++) {
-            if (lines[i].matches(" {4}( {4})?[A-Za-z].*\\) \\{")) {
-                start = i;
-            } else if (lines[i].matches(" {4}( {4})?\\}") && start >= 0) {
-                DUE.is("lines of " + lines[start].trim() + ": " + (i - start), i - start <= 60, true);
-                start = -1;
+            if (!lines[i].matches(header)) {
+                continue;
             }
+            methods++;
+            String end = lines[i].substring(0, lines[i].indexOf(lines[i].trim())) + "}";
+            boolean constructor = lines[i].matches(" *(public |private )?[A-Z]\\w*\\(.*");
+            int start = i;
+            for (; i < lines.length && !lines[i].equals(end); i++) {
+                if (Pattern.compile("\\bnew\\b").matcher(lines[i]).find()) {
+                    DUE.is("made in " + lines[start].trim(), constructor, true);
+                    made++;
+                }
+            }
+            DUE.is("lines of " + lines[start].trim() + ": " + (i - start), i - start <= 60, true);
         }
+        DUE.is("methods were seen", methods > 38, true);
+        DUE.is("constructors make parts", made > 0, true);
     }
 }

@@ -259,7 +259,7 @@ public final class RandomRunsTest {
             case 13: due("seat", x.seat(l % 9, t), y.seat(l % 9, t)); break;
             case 14: case 15: due("nobody(" + l + ")", x.nobody(l), y.nobody(l)); break;
             case 16: dead(); break;
-            case 17: due("rob(" + t + ", " + d + ")", x.rob(t, d), y.rob(t, d)); break;
+            case 17: rob(t, d, l); break;
             case 18: due("set(" + t + ")", x.set(t), y.set(t)); break;
             case 19: seen(t); break;
             case 20: whatIf(t, d); break;
@@ -269,13 +269,22 @@ public final class RandomRunsTest {
         }
     }
 
+    /** Mostly the run in which a letter lies. */
+    private void rob(int t, int d, int l) {
+        boolean aboard = y.of(l, 7) == 1 && !oneIn(4);
+        int itsTrain = aboard ? y.of(l, 8) % 10 : t;
+        int itsDay = aboard ? y.of(l, 8) / 10 : d;
+        due("rob(" + itsTrain + ", " + itsDay + ")", x.rob(itsTrain, itsDay), y.rob(itsTrain, itsDay));
+    }
+
     private void late(int t, int d) {
         int n = oneIn(4) ? below(303) : below(40);
         due("late(" + t + ", " + d + ", " + n + ")", x.late(t, d, n), y.late(t, d, n));
     }
 
     private void miss(int t, int d) {
-        for (int i = -1; i < 8; i++) {
+        for (int k = -1; k < 15; k++) {
+            int i = k % 8;
             if (oneIn(3)) {
                 due("miss(" + t + ", " + d + ", " + i + ")", x.miss(t, d, i), y.miss(t, d, i));
             }

@@ -8,6 +8,7 @@ public final class RobberiesAndTrialsTest {
         rob();
         robEdges();
         robbery();
+        robberyOfOthers();
         setAndSeen();
         seenOnceMore();
         clockRunsBackNever();
@@ -126,6 +127,33 @@ public final class RobberiesAndTrialsTest {
         due("OUT keeps them", x.account(0, 1, 0), 10);
         due("IN does not", x.account(0, 1, 1), 0);
         due("they differ", x.account(0, 1, 2), 2);
+    }
+
+    /** Each robbery has its own letters, also of one run. */
+    private static void robberyOfOthers() {
+        InlandMails x = Land.of(4);
+        Land.train(x, 0, 10, 10, 1, 20, 20, 2, 30, 30);
+        Land.train(x, 3, 10, 10, 2, 30, 30);
+        Land.sorterIn(x, 0, 9, ALL);
+        Land.sorterIn(x, 1, 9, ALL);
+        Land.act(x, 0, "charge weight;");
+        int[][] told = {{1, 2}, {3, 2}, {0, 2}, {1, 2}, {3, 2}, {0, 2}};
+        for (int l = 0; l < told.length; l++) {
+            x.post(0, told[l][0], told[l][1], 1, 1 << l, 0);
+        }
+        x.minutes(10);
+        due("the first run", x.rob(0, 0), 0);
+        due("the other run", x.rob(1, 0), 1);
+        x.minutes(10);
+        due("the first run once more", x.rob(0, 0), 2);
+        int[][] want = {{0, 10, 2, 36, 2, 5}, {1, 10, 2, 18, 1, 4}, {0, 20, 2, 9, 0, 3}};
+        for (int k = 0; k < 3; k++) {
+            for (int i = 0; i < 6; i++) {
+                int what = i < 4 ? i : i + 6;
+                due("robbery(" + k + ", " + what + ")", x.robbery(k, what), want[k][i]);
+            }
+            due("its third letter", x.robbery(k, 12), NONE);
+        }
     }
 
     private static void gains(InlandMails x, int t, int low, int high, int setAt) {

@@ -223,6 +223,9 @@ public final class TableAndActsTest {
         for (int t = 0; t < 10; t++) {
             for (int d = 0; d < 7; d++) {
                 due("LATE of run (" + t + ", " + d + ")", x.run(t, d, 4), 10 * d + t);
+                for (int i = 0; i < 7; i++) {
+                    no("told: miss(" + t + ", " + d + ", " + i + ")", x.miss(t, d, i));
+                }
             }
             due("comes at the eighth stop", x.stopOf(t, 7, 1), 75);
         }
