@@ -897,7 +897,7 @@ public final class InlandMails {
         }
 
         static int slotIn(int key) {
-            return STOPS * (TRAINS * dayIn(key) + trainIn(key)) + stopIn(key);
+            return STOPS * (TRAINS * (key >> 3 & 7) + (key >> 6 & 15)) + (key & 7);
         }
 
         /** The stop at which the best way that begins with this going leaves the run; 0 if none does. */
@@ -1434,14 +1434,10 @@ public final class InlandMails {
                         leftBy[run]++;
                     }
                     move(l, minute, letters[l].stateIn(town), town);
-                    mark(key, l);
+                    if (leads != null) {
+                        leads.mark(key, l);
+                    }
                 }
-            }
-        }
-
-        private void mark(int key, int l) {
-            if (leads != null) {
-                leads.mark(key, l);
             }
         }
 
@@ -1456,7 +1452,9 @@ public final class InlandMails {
                     if (goesTo > 0) {
                         move(l, minute, ABOARD, run);
                         goal[l] = goesTo;
-                        mark(key, l);
+                        if (leads != null) {
+                            leads.mark(key, l);
+                        }
                     }
                 }
             }
