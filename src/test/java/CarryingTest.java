@@ -19,6 +19,7 @@ public final class CarryingTest {
         runsInOrder();
         missedAtSpeed();
         missedForAnother();
+        missedForAnotherAmid();
         missedAtTheStart();
         missedTwice();
         run();
@@ -386,6 +387,25 @@ public final class CarryingTest {
         x.minutes(1);
         due("a minute later the next one", x.of(0, 8), 2);
         due("aboard", x.of(0, 7), 1);
+    }
+
+    /** The same amid both runs. */
+    private static void missedForAnotherAmid() {
+        InlandMails x = Land.of(4);
+        x.train();
+        x.stop(0, 2, 5, 5, false);
+        x.stop(0, 0, 10, 10, true);
+        x.stop(0, 1, 20, 20, false);
+        Land.train(x, 3, 5, 5, 2, 7, 7, 0, 10, 10, 1, 30, 30);
+        Land.train(x, 0, 11, 11, 1, 40, 40);
+        int l = Land.letter(x, 0, 1);
+        yes("miss", x.miss(0, 0, 1));
+        x.minutes(10);
+        due("neither", x.of(l, 7), 0);
+        int other = Land.letter(x, 0, 1);
+        x.minutes(1);
+        due("a minute later the next one", x.of(l, 8), 2);
+        due("and for another letter", x.of(other, 8), 2);
     }
 
     private static void missedAtTheStart() {

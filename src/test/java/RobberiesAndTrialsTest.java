@@ -25,6 +25,8 @@ public final class RobberiesAndTrialsTest {
         seatsApart();
         seatsAnew();
         seatsOfTwo();
+        seatsInANewTrain(0);
+        seatsInANewTrain(1);
         DUE.close();
     }
 
@@ -558,5 +560,36 @@ public final class RobberiesAndTrialsTest {
         x.minutes(3000);
         x.minutes(3000);
         due("given", x.seats(0), x.whatIf(NONE, 0, 0));
+    }
+
+    /** Who sorts, makes letters wait where the next run misses them: best is a train that goes nowhere. */
+    private static void seatsInANewTrain(int whoSorts) {
+        InlandMails x = Land.of(6);
+        x.train();
+        x.stop(0, 0, 100, 100, false);
+        x.stop(0, 2, 200, 200, false);
+        x.stop(0, 3, 300, 300, true);
+        x.stop(0, 5, 400, 400, false);
+        x.stop(0, 4, 600, 600, false);
+        x.train();
+        x.stop(1, 1, 100, 100, false);
+        x.stop(1, 3, 200, 200, false);
+        x.stop(1, 2, 300, 300, true);
+        x.stop(1, 4, 400, 400, false);
+        x.stop(1, 5, 600, 600, false);
+        x.sorter(9, whoSorts == 0 ? ALL : 0);
+        x.sorter(9, whoSorts == 1 ? ALL : 0);
+        Land.letter(x, 0, 4);
+        Land.letter(x, 1, 5);
+        yes("miss", x.miss(0, 0, 2));
+        yes("miss", x.miss(1, 0, 2));
+        due("as it is", x.whatIf(NONE, 0, 0), 1200);
+        due("sorter 0 in", x.seats(10), 0);
+        due("sorter 1 in", x.seats(11), 0);
+        yes("one letter waits", x.seats(0) > 1800);
+        due("a new train", x.train(), 2);
+        due("none waits", x.seats(0), 1200);
+        due("who knows nothing, in", x.seats(11 - whoSorts), 0);
+        due("who sorts, in", x.seats(10 + whoSorts), 2);
     }
 }

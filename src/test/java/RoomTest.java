@@ -123,10 +123,40 @@ public final class RoomTest {
                 DUE.is("where", x.where(l, x.lead(l, i, 0), 0) != InlandMails.NONE, true);
             }
         }
+        askCounts(x);
         DUE.is("tried", x.tried(0) >= 0, true);
         DUE.is("as it is", x.whatIf(InlandMails.NONE, 0, 0) >= 0, true);
         x.whatIf(3, 6, 100);
         DUE.is("seats", x.seats(0) >= 0, true);
+    }
+
+    /** Of all that is counted letter by letter. */
+    private static void askCounts(InlandMails x) {
+        int letters = 0;
+        int aboard = 0;
+        for (int state = 0; state <= 6; state++) {
+            letters += x.look(10 + state);
+        }
+        DUE.is("letters in all states", letters, 120);
+        for (int run = 0; run < 70; run++) {
+            aboard += x.run(run % 10, run / 10, 0) + x.run(run % 10, run / 10, 1);
+        }
+        DUE.is("letters in all runs", aboard, x.look(11));
+        int robbed = 0;
+        for (int k = 0; x.robbery(k, 0) != InlandMails.NONE; k++) {
+            robbed += x.robbery(k, 2);
+            DUE.is("more than it took", x.robbery(k, 10 + x.robbery(k, 2)), InlandMails.NONE);
+            DUE.is("owed", x.robbery(k, 3) >= 0, true);
+        }
+        DUE.is("letters of all robberies", robbed, x.look(14));
+        for (int a = 0; a < 12; a++) {
+            for (int b = 0; b < 12; b++) {
+                if (a != b) {
+                    DUE.is("IN and OUT", x.account(a, b, 1) <= x.account(a, b, 0), true);
+                    DUE.is("they end", x.account(a, b, 10 + x.account(a, b, 2)), InlandMails.NONE);
+                }
+            }
+        }
     }
 
     private static void play(InlandMails x) {
