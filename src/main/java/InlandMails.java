@@ -2033,9 +2033,13 @@ public final class InlandMails {
             for (int i = 0; i < length; i++) {
                 int c = tape[i];
                 if (isLetter(c)) {
-                    i = scanWord(i);
+                    if (i == 0 || !isLetter(tape[i - 1])) {
+                        scanWord(i);
+                    }
                 } else if (isDigit(c)) {
-                    i = scanNumber(i);
+                    if (i == 0 || !isDigit(tape[i - 1])) {
+                        scanNumber(i);
+                    }
                 } else if (c != ' ' && c != '\n') {
                     addToken(isSign(c) ? c : NO_TOKEN, i, 0);
                 }
@@ -2050,11 +2054,10 @@ public final class InlandMails {
             }
         }
 
-        /** The last letter's place. Words have up to six letters, which a long holds; longer ones are none. */
-        private int scanWord(int start) {
+        /** Words have up to six letters, which a long holds; longer ones are none. */
+        private void scanWord(int start) {
             long word = 0;
-            int i = start;
-            for (; i < length && isLetter(tape[i]); i++) {
+            for (int i = start; i < length && isLetter(tape[i]); i++) {
                 word = i - start < 6 ? word << 8 | tape[i] : NONE;
             }
             int kind = NO_TOKEN;
@@ -2064,18 +2067,14 @@ public final class InlandMails {
                 }
             }
             addToken(kind, start, 0);
-            return i - 1;
         }
 
-        /** The last digit's place. */
-        private int scanNumber(int start) {
+        private void scanNumber(int start) {
             int value = 0;
-            int i = start;
-            for (; i < length && isDigit(tape[i]); i++) {
+            for (int i = start; i < length && isDigit(tape[i]); i++) {
                 value = i - start < 4 ? value * 10 + tape[i] - '0' : NONE;
             }
             addToken(value == NONE ? NO_TOKEN : NUMBER, start, Math.max(value, 0));
-            return i - 1;
         }
 
         private static boolean isLetter(int c) {

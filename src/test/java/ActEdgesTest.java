@@ -37,6 +37,7 @@ public final class ActEdgesTest {
         cutToMost();
         onTopOfWhatIsCut();
         firstLineWhoseTestIsSo();
+        testsThatHold();
         withoutLine();
         behindTheSecondOfLate();
         firstSoManyFranks();
@@ -353,6 +354,10 @@ public final class ActEdgesTest {
         fault("charge (6/0);", 2, 10);
         fault("charge 1 when 6/0 = 1;", 2, 16);
         fault("charge 1 when 1 = 6 * 2 / 0;", 2, 26);
+        fault("charge 1 / ;", 1, 11);
+        fault("charge 1 / when 1 = 1;", 1, 11);
+        fault("charge 1 when 1 / = 1;", 1, 18);
+        fault("charge 1 when 1 = 1 / ;", 1, 22);
         good("charge 0/1;");
         good("charge 1/9999;");
         good("charge 0*0+0-0;");
@@ -543,6 +548,36 @@ public final class ActEdgesTest {
             due("by line, of weight " + weights[k], x.charge(l, 2), lines[k]);
             due("charge, of weight " + weights[k], x.charge(l, 0), 10 + lines[k]);
         }
+    }
+
+    /** "B = C {or C}. C = D {and D}. D = E (< | = | >) E | not D": of each a less, an equal, a more. */
+    private static void testsThatHold() {
+        String[] signs = {"<", "=", ">"};
+        for (int a = 0; a < 9; a++) {
+            for (int b = 0; b < 9; b++) {
+                boolean one = holds(a / 3, a % 3, 0);
+                String first = a / 3 + signs[0] + a % 3;
+                for (int k = 0; k < 3; k++) {
+                    boolean two = holds(b / 3, b % 3, k);
+                    String second = b / 3 + signs[k] + b % 3;
+                    when(first + " and " + second, one && two);
+                    when(first + " or " + second, one || two);
+                    when("not " + first + " and not " + second, !one && !two);
+                    when("not " + second + " or not not " + first, !two || one);
+                    when(second + " and " + first + " or " + second, two);
+                    when(second + " or " + first + " and " + second, two);
+                    when("not " + second + " or " + first + " and not " + second, !two);
+                }
+            }
+        }
+    }
+
+    private static boolean holds(int a, int b, int sign) {
+        return sign == 0 ? a < b : sign == 1 ? a == b : a > b;
+    }
+
+    private static void when(String test, boolean want) {
+        due("when " + test, chargeOf("charge 5 when " + test + "; charge 4;"), want ? 5 : 4);
     }
 
     /** "(0 without ...)"; promise 19: "the charge line (by charge lines alone; NONE ...)." */

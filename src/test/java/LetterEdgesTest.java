@@ -14,6 +14,7 @@ public final class LetterEdgesTest {
         postedNone();
         hundredAndTwenty();
         crossEdges();
+        crossByEachTown();
         whatOfLetters();
         ofStates();
         waysOfNone();
@@ -37,6 +38,7 @@ public final class LetterEdgesTest {
         fourPlaces();
         placesButTo();
         orderOfPlaces();
+        orderAsToldAnew();
         lowestTerms();
         orderOfNone();
         foundAtItsOwn();
@@ -142,6 +144,22 @@ public final class LetterEdgesTest {
         due("the direct road is longer", x.of(Land.letter(x, 1, 2), 9), 0);
         x.road(1, 2, 2);
         due("as long", x.of(Land.letter(x, 1, 2), 9), 1);
+    }
+
+    /** The CAPITAL alone is not to be touched: any other town may be. */
+    private static void crossByEachTown() {
+        for (int town = 1; town < 12; town++) {
+            int from = 1 + town % 11;
+            int to = 1 + from % 11;
+            InlandMails x = Land.of(12);
+            x.road(from, 0, 20);
+            x.road(0, to, 20);
+            x.road(from, town, 20);
+            x.road(town, to, 20);
+            due("by way of town " + town, x.of(Land.letter(x, from, to), 9), 1);
+            x.road(from, 0, 19);
+            due("and now the capital's way is shorter", x.of(Land.letter(x, from, to), 9), 0);
+        }
     }
 
     /** Promise 18: "NONE if there is none such, or another what." */
@@ -562,6 +580,38 @@ public final class LetterEdgesTest {
                 due("its chance", unlike.order(0, 20 + i), i < 2 ? 99 : 1);
             }
         }
+    }
+
+    /** "Of one TOWN the latest": each of four towns told anew, to come to each place in the ORDER. */
+    private static void orderAsToldAnew() {
+        for (int n = 1; n <= 4; n++) {
+            for (int town = 1; town <= n; town++) {
+                for (int chance = 5; chance <= 95; chance += 5) {
+                    InlandMails x = oneDead();
+                    for (int k = 1; k <= n; k++) {
+                        x.place(0, k, 100 - 20 * k);
+                    }
+                    yes("told anew", x.place(0, town, chance));
+                    inOrder(x, n, town, chance);
+                }
+            }
+        }
+    }
+
+    /** Town k has chance 100 - 20 k, but one of them. */
+    private static void inOrder(InlandMails x, int n, int town, int chance) {
+        due("so many", x.order(0, 0), n);
+        long seen = 0;
+        for (int i = 0; i < n; i++) {
+            long here = x.order(0, 10 + i);
+            seen |= 1L << here;
+            due("chance of town " + here, x.order(0, 20 + i), here == town ? chance : 100 - 20 * here);
+            if (i > 0) {
+                long more = x.order(0, 19 + i) - x.order(0, 20 + i);
+                yes("the greater first, of like ones the lesser town", more > 0 || more == 0 && x.order(0, 9 + i) < here);
+            }
+        }
+        due("each town once", seen, (1L << n + 1) - 2);
     }
 
     /** "FOUND by trying all: ... as a fraction in lowest terms." */
