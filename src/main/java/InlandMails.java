@@ -16,6 +16,7 @@ public final class InlandMails {
     private static final int SORTERS = 8;
     private static final int ROBBERIES = 20;
     private static final int LATEST = 300;
+    private static final int ABOVE_ALL_SUMS = LETTERS * (LAST_MINUTE + 1) + 1;
 
     private static final int HOLE = 0;
     private static final int ABOARD = 1;
@@ -667,7 +668,7 @@ public final class InlandMails {
         int seatOne = crew.seat[0];
         int seatTwo = crew.seat[1];
         int seconds = crew.count > 1 ? table.trains : 1;
-        bestSum = Integer.MAX_VALUE;
+        bestSum = ABOVE_ALL_SUMS;
         for (int one = 0; one < table.trains; one++) {
             for (int two = 0; two < seconds; two++) {
                 crew.seat[0] = one;
@@ -807,7 +808,7 @@ public final class InlandMails {
      * runs, train, day, stop at which the first run is taken, stop at which it is left.
      */
     private static final class Ways {
-        static final long NO_WAY = Long.MAX_VALUE;
+        static final long NO_WAY = 1L << 62;
         private static final int GOING = 1 << 10;
         private static final int MOST = RUNS * 2 * (STOPS - 1);
 
