@@ -37,6 +37,7 @@ public final class TrialEdgesTest {
         seatsOfTwoAlone();
         seatsTheLesserFirst();
         seatsOfManyTrains();
+        seatsWithNoneGiven();
         DUE.close();
     }
 
@@ -544,5 +545,21 @@ public final class TrialEdgesTest {
         due("sorter 0, who knows town 2", x.seats(10), 9);
         due("sorter 1, who knows town 1", x.seats(11), 8);
         due("nothing of it is done", x.whatIf(NONE, 0, 0), 2 * 10080);
+    }
+
+    /** "10080 for each that is not": as many LETTERS as may be, none of which is ever given. */
+    private static void seatsWithNoneGiven() {
+        InlandMails x = Land.of(2);
+        Land.train(x);
+        Land.train(x);
+        x.sorter(1, 3);
+        x.sorter(1, 3);
+        for (int l = 0; l < 120; l++) {
+            Land.letter(x, 0, 1);
+        }
+        due("all goes on as it is", x.whatIf(NONE, 0, 0), 120 * 10080);
+        due("the least sum", x.seats(0), 120 * 10080);
+        due("sorter 0 in the first", x.seats(10), 0);
+        due("sorter 1 in the first", x.seats(11), 0);
     }
 }
